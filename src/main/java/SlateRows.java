@@ -878,7 +878,7 @@ public final class SlateRows {
         }
 
         private void reach(int slot, int take, int place) {
-            if (stateAt(slot) < 0 && slot < MOST_SLOTS && states < MOST_STATES) {
+            if (slot >= 0 && slot < MOST_SLOTS && stateAt(slot) < 0 && states < MOST_STATES) {
                 stateOfSlot[slot] = states;
                 slots[states] = slot;
                 takes[states] = take;
