@@ -13,6 +13,7 @@ public final class ByTest {
         chosen();
         toldByFigure();
         chosenAboveALaidRow();
+        atTheLengthNoJointIsAsked();
         handed();
         handedOutOfALittleHeap();
         manyHanded();
@@ -99,6 +100,17 @@ public final class ByTest {
         stuck(x, 1, SORTED, 0, 0);
         x.lap(2);
         by(x, 1, SORTED, 0, 0, 5, 0, 0);
+    }
+
+    private static void atTheLengthNoJointIsAsked() {
+        SlateRows x = Check.withRoof("w10 6 1;w5 6 1;w20 6 1;r30;r20;");
+        Check.lay(x, 0, 0, 0, 0);
+        by(x, 1, ANY, 0, 0, 1, 0, 0);
+        x.heap(2, 0);
+        by(x, 1, TOLD, 0, 0, 3, 0, 0);
+        x.heap(0, 1);
+        x.heap(1, 2);
+        by(x, 1, LAYING, 0, 0, 3, 0, 0);
     }
 
     private static void handed() {

@@ -84,6 +84,13 @@ public final class ImageTest {
         due("27: slates", x.count(3), 4);
         due("27: laid", x.count(4), 2);
         due("27: worth", x.count(5), 22);
+        SlateRows most = Check.withRoof("w10 12 99;w11 12 99;w12 12 99;w13 12 99;r10;r10;r10;r10;r10;r10;");
+        due("27: the most slates", most.count(3), 48);
+        due("27: the most worth", most.count(5), 48 * 99);
+        for (int row = 0; row < 6; row++) {
+            Check.lay(most, row, 0);
+            due("27: rows of one slate", most.count(4), row + 1);
+        }
         due("27: count(6)", x.count(6), -1);
         due("27: count(-1)", x.count(-1), -1);
         due("27: count(far)", x.count(Integer.MAX_VALUE), -1);

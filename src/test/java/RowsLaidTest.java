@@ -11,6 +11,9 @@ public final class RowsLaidTest {
         laid();
         takenUp();
         takenUpToAFullHeap();
+        cutByOne();
+        atTheLengthNoJointIsAsked();
+        fourWidths();
         CHECK.finish("RowsLaidTest");
     }
 
@@ -180,6 +183,26 @@ public final class RowsLaidTest {
         due("12: it can be laid again", Check.lay(x, 1, 0, 0, 0, 1), 3);
         due("12: takeUp(2)", x.takeUp(2), -1);
         due("12: takeUp(-1)", x.takeUp(-1), -1);
+    }
+
+    private static void cutByOne() {
+        SlateRows x = Check.withRoof("w7 4 1;r13;");
+        due("11: cut by one", Check.lay(x, 0, 0, 0), 1);
+        due("12: but the cut one", x.takeUp(0), 1);
+        due("12: heap", x.width(0, 1), 3);
+    }
+
+    private static void atTheLengthNoJointIsAsked() {
+        SlateRows x = Check.withRoof("w10 6 1;w5 6 1;r30;r20;");
+        Check.lay(x, 0, 0, 0, 0);
+        due("10: ends above a joint", Check.judge(x, 1, 1, 0, 1), -4);
+        due("11: ends above a joint", Check.lay(x, 1, 1, 0, 1), 0);
+    }
+
+    private static void fourWidths() {
+        SlateRows x = Check.withRoof("w5 1 1;w6 1 1;w7 1 1;w8 1 1;r21;");
+        due("10: the fourth is one", Check.judge(x, 0, 3, 2, 1), -4);
+        due("10: a fifth is none", Check.judge(x, 0, 3, 4, 1), 1);
     }
 
     private static void takenUpToAFullHeap() {

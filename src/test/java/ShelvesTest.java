@@ -47,6 +47,7 @@ public final class ShelvesTest {
         SlateRows x = new SlateRows();
         due("29: a hundred", x.row(0, 2, 100), 0);
         due("29: the last place", x.put(0, 99, 5), 0);
+        due("29: the first place", x.put(0, 0, 6), 0);
         due("29: no more", x.put(0, 100, 5), -13);
         due("29: none", x.row(1, 0, 0), 0);
         due("29: no place", x.put(1, 0, 0), -13);
@@ -61,6 +62,7 @@ public final class ShelvesTest {
         due("29: nothing changed", x.element(0, 99), 5);
         due("29: anew", x.row(0, 2, 100), 0);
         due("29: all are 0", x.element(0, 99), 0);
+        due("29: the first, too", x.element(0, 0), 0);
         x.keep(0, 1, 3, 3);
         due("29: in place of a laying", x.row(0, 1, 2), 0);
         due("29: no laying any more", x.toil(0), -1000000012);

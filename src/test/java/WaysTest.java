@@ -18,7 +18,11 @@ public final class WaysTest {
         brokenSlates();
         brokenSlatesAboveALaidRow();
         brokenAndCut();
+        brokenWithOneLaidElsewhere();
+        atTheLengthNoJointIsAsked();
+        asManyAsThereCanBe();
         refusalsOfLaidRows();
+        refusalsOfRowsOfOneSlate();
         refusalsOfWrongNumbers();
         CHECK.finish("WaysTest");
     }
@@ -392,6 +396,51 @@ public final class WaysTest {
         due("23: two 7s for both", y.broken(0, 0), 2);
         y.heap(1, 1);
         due("23: one 7 won't do", y.broken(0, 0), -4);
+    }
+
+    private static void brokenWithOneLaidElsewhere() {
+        SlateRows x = Check.withRoof("w5 6 1;w10 2 1;w8 2 1;r10;r18;");
+        Check.lay(x, 0, 0, 0);
+        Check.lay(x, 1, 1, 2);
+        x.heap(0, 2);
+        x.heap(1, 0);
+        x.heap(2, 0);
+        // 5, 5 has a joint just above that at 5; 8, 5, 5 has not, with the 8 that was laid behind
+        due("23: the 8 comes to lie first", x.broken(1, 0), 2);
+        due("23: no 8", x.broken(1, 1), -4);
+    }
+
+    private static void atTheLengthNoJointIsAsked() {
+        SlateRows x = Check.withRoof("w10 6 1;w5 6 1;r30;r20;");
+        Check.lay(x, 0, 0, 0, 0);
+        due("13: 5, 10, 5 ends above a joint", x.fills(1), 1);
+        due("15: 5, 10, 5", x.best(1, -1), 3);
+        due("19: 5, 10, 5", x.ends(1, 1), 1);
+        Check.lay(x, 1, 1, 0, 1);
+        x.heap(0, 0);
+        due("23: a 5 at the end", x.broken(1, 2), 1);
+    }
+
+    private static void asManyAsThereCanBe() {
+        SlateRows x = Check.withRoof("w10 12 2;w30 1 1;w29 1 1;w28 1 1;r20;r20;r20;r20;r20;r20;l0;");
+        due("22: six rows", x.all(0), 6);
+        due("22: the others are left", x.all(1), 3);
+        due("21: the last one", x.two(5, 0), 8);
+        due("18: the last width", x.needs(5, 3), 0);
+        due("19: the last width", x.ends(5, 3), 0);
+        due("17: the last width", x.uses(5, 3), 0);
+        due("13: one order", x.fills(5), 1);
+    }
+
+    private static void refusalsOfRowsOfOneSlate() {
+        SlateRows x = Check.withRoof("w20 6 1;r20;r20;r20;");
+        Check.lay(x, 0, 0);
+        due("13: laid", x.fills(0), -3);
+        due("18: laid", x.needs(0, 0), -3);
+        due("21: laid", x.two(0, 2), -3);
+        due("21: laid", x.two(2, 0), -3);
+        due("22: but the one laid", x.all(0), 2);
+        due("23: one of one", x.broken(0, 0), 1);
     }
 
     private static void refusalsOfLaidRows() {
