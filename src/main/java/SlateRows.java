@@ -215,7 +215,7 @@ public final class SlateRows {
         mind.takeOver(now);
         for (int n = 0; now.many[width] + n <= MOST_IN_HEAP; n++) {
             mind.many[width] = now.many[width] + n;
-            if (waysOf(mind, row).number() > 0) {
+            if (waysOf(mind, row).hasFill()) {
                 return n;
             }
         }
@@ -514,7 +514,7 @@ public final class SlateRows {
         }
         int from = now.endOf(row, start - 1);
         int to = Math.min(now.endOf(row, end), now.lengths[row]);
-        return waysBetween(mind, row, from, to).number() > 0;
+        return waysBetween(mind, row, from, to).hasFill();
     }
 
     /** Widths, heap, rows, lap: all that an image keeps. */
@@ -664,11 +664,12 @@ public final class SlateRows {
 
         /** Lays n slates that are known to be well. */
         void putDown(int row, int[] told, int n) {
-            for (int i = 0; i < n && i < MOST_SLATES; i++) {
+            int count = Math.min(n, MOST_SLATES);
+            for (int i = 0; i < count; i++) {
                 slates[row * MOST_SLATES + i] = told[i];
                 many[told[i]]--;
             }
-            laid[row] = n;
+            laid[row] = count;
         }
 
         /** Takes a laid row up; a cut slate, and one for which the heap has no room, is lost. */
@@ -898,6 +899,15 @@ public final class SlateRows {
 
         private boolean hasLeft(int s, int w) {
             return Taken.of(takes[s], w) < roof.many[w];
+        }
+
+        boolean hasFill() {
+            for (int s = 0; s < states; s++) {
+                if (places[s] == to) {
+                    return true;
+                }
+            }
+            return false;
         }
 
         int number() {
