@@ -2,8 +2,10 @@ import java.util.Random;
 
 /** Runs of calls drawn from fixed seeds, each answer of which is held against the oracle's. */
 public final class AgainstOracleTest {
-    private static final int RUNS = 1500;
+    private static final int RUNS = 1800;
     private static final int CALLS = 220;
+    /** A roof takes 102 calls at most, a draw of calls no more; behind the 512th call nothing is promised. */
+    private static final int LAST_DRAW = 512 - 102;
     private static final int[] ODD = {-1, -2, 100, 101, 1000, Integer.MIN_VALUE, Integer.MAX_VALUE};
 
     private final Random random;
@@ -13,6 +15,7 @@ public final class AgainstOracleTest {
     private final Oracle o = new Oracle();
     /** Runs with many small slates are slow for the oracle, so that few runs have them. */
     private final boolean isLarge;
+    private int asked = 0;
 
     private AgainstOracleTest(int run, Check check) {
         this.run = run;
@@ -27,7 +30,7 @@ public final class AgainstOracleTest {
             AgainstOracleTest test = new AgainstOracleTest(run, check);
             test.readRoof(test.goodRoof());
             int calls = test.isLarge ? 40 : CALLS;
-            for (int call = 0; call < calls; call++) {
+            for (int call = 0; call < calls && test.asked <= LAST_DRAW; call++) {
                 test.someCall();
             }
         }
@@ -35,11 +38,8 @@ public final class AgainstOracleTest {
     }
 
     private void due(long got, long want, String call, int... arguments) {
-        StringBuilder text = new StringBuilder("run ").append(run).append(": ").append(call).append('(');
-        for (int i = 0; i < arguments.length; i++) {
-            text.append(i == 0 ? "" : ", ").append(arguments[i]);
-        }
-        check.due(text.append(')').toString(), got, want);
+        asked++;
+        check.due("run " + run + ": " + Script.told(call, arguments), got, want);
     }
 
     /** A number from 0 to most - 1, now and then one around it or far off. */

@@ -4,6 +4,7 @@ public final class RoofTest {
 
     public static void main(String[] args) {
         newObject();
+        theLastCall();
         roofsThatAreWell();
         faultsOfTheFirstKind();
         faultsOfTheSecondKind();
@@ -40,6 +41,15 @@ public final class RoofTest {
         for (int d = 0; d < 8; d++) {
             due("1: toss(" + d + ")", x.toss(d), -11);
         }
+    }
+
+    /** An object may be called 512 times: the last of them answers as the first did. */
+    private static void theLastCall() {
+        SlateRows x = new SlateRows();
+        for (int call = 1; call <= 511; call++) {
+            due("1: call " + call, x.lap(call % 21), call == 1 ? 3 : (call - 1) % 21);
+        }
+        due("1: call 512", x.lap(0), 511 % 21);
     }
 
     private static void roofsThatAreWell() {

@@ -9,7 +9,7 @@ public final class RoomTest {
     public static void main(String[] args) {
         dearestCalls(20);
         long before = bytesMade();
-        dearestCalls(480);
+        dearestCalls(440);
         CHECK.due("dearest calls", bytesMade() - before < MOST_BYTES);
         newObjects(10);
         before = bytesMade();
