@@ -1,12 +1,16 @@
+import java.io.IOException;
 import java.lang.reflect.Constructor;
 import java.lang.reflect.Field;
 import java.lang.reflect.Method;
 import java.lang.reflect.Modifier;
+import java.nio.file.Files;
+import java.nio.file.Path;
+import java.util.ArrayList;
 import java.util.Arrays;
 import java.util.List;
 import java.util.TreeSet;
 
-/** The face is the document's, no more and no less. */
+/** The face is the document's, no more and no less. It runs in the project's own folder. */
 public final class FaceTest {
     private static final Check CHECK = new Check();
     /** Name and how many ints each method takes. */
@@ -16,12 +20,35 @@ public final class FaceTest {
         "all 1", "broken 2", "by 4", "image 0", "restore 0", "count 1", "keep 4", "row 3", "put 3", "element 2",
         "copy 5", "toil 1", "toss 1"};
 
-    public static void main(String[] args) {
+    public static void main(String[] args) throws IOException {
+        sameAsInDocument();
         methods();
         constructors();
         fields();
         classesInside();
         CHECK.finish("FaceTest");
+    }
+
+    /** The document's face and the program's have the same lines in the same order. */
+    private static void sameAsInDocument() throws IOException {
+        String document = Files.readString(Path.of("../shared/DOC.md"));
+        String face = document.substring(document.indexOf("## The public face"), document.indexOf("## Terms"));
+        List<String> wanted = publicLines(face);
+        List<String> got = publicLines(Files.readString(Path.of("src/main/java/SlateRows.java")));
+        CHECK.due("lines of the face", got.size(), wanted.size());
+        for (int i = 0; i < wanted.size() && i < got.size(); i++) {
+            CHECK.due("the face has " + wanted.get(i) + ", the program " + got.get(i), got.get(i).equals(wanted.get(i)));
+        }
+    }
+
+    private static List<String> publicLines(String text) {
+        List<String> found = new ArrayList<>();
+        for (String line : text.split("\n")) {
+            if (line.trim().startsWith("public ")) {
+                found.add(line.replaceAll("( \\{|;)$", "").trim());
+            }
+        }
+        return found;
     }
 
     private static void methods() {
